@@ -647,7 +647,7 @@ public final class PackWright {
         }
 
         boolean countsWith(int featuresOn) {
-            return condition < 0 || isIn(featuresOn, condition);
+            return condition < 0 || (featuresOn >> condition & 1) != 0;
         }
     }
 
@@ -668,31 +668,28 @@ public final class PackWright {
         }
 
         int addNeed(Claim need) {
-            if (firstNeed == null) {
-                firstNeed = need;
-            } else {
-                lastOf(firstNeed).next = need;
-            }
+            firstNeed = joined(firstNeed, need);
             needCount++;
             return needCount - 1;
         }
 
         int addClash(Claim clash) {
-            if (firstClash == null) {
-                firstClash = clash;
-            } else {
-                lastOf(firstClash).next = clash;
-            }
+            firstClash = joined(firstClash, clash);
             clashCount++;
             return clashCount - 1;
         }
 
-        private static Claim lastOf(Claim first) {
+        /** The chain with the claim at its end: they are asked in the order in which they were added. */
+        private static Claim joined(Claim first, Claim added) {
+            if (first == null) {
+                return added;
+            }
             Claim last = first;
             while (last.next != null) {
                 last = last.next;
             }
-            return last;
+            last.next = added;
+            return first;
         }
     }
 
