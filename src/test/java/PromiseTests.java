@@ -1,5 +1,5 @@
 /** For each promise of the document: ordinary inputs, the edges that it names, and wrong inputs. */
-public final class PromiseTests {
+public final class PromiseTests extends Projects {
     private static final Class<? extends RuntimeException> INDEX = IndexOutOfBoundsException.class;
     private static final Class<? extends RuntimeException> ARGUMENT = IllegalArgumentException.class;
     private static final Class<? extends RuntimeException> STATE = IllegalStateException.class;
@@ -31,42 +31,6 @@ public final class PromiseTests {
         }
         is(what + " throws", got, due);
         is("digest() behind " + what, x.digest(), before);
-    }
-
-    private static PackWright withPackages(int count) {
-        PackWright x = new PackWright();
-        for (int i = 0; i < count; i++) {
-            x.addPackage();
-        }
-        return x;
-    }
-
-    /** Publishes versions with the majors 1 to count and the size 10. */
-    private static void publishMajors(PackWright x, int of, int count) {
-        for (int major = 1; major <= count; major++) {
-            x.publish(of, major, 0, 0, 10);
-        }
-    }
-
-    /** Packages with one version 1.0.0 each, package p of the size 10 * (p + 1). */
-    private static PackWright withSingles(int count) {
-        PackWright x = withPackages(count);
-        for (int of = 0; of < count; of++) {
-            x.publish(of, 1, 0, 0, 10 * (of + 1));
-        }
-        return x;
-    }
-
-    private static void needAny(PackWright x, int of, int needed) {
-        x.need(of, needed, -1, 0, 0, 0, 0, 0);
-    }
-
-    private static void wishAny(PackWright x, int of) {
-        x.wish(of, 0, 0, 0, 0, 0);
-    }
-
-    private static void wishOnly(PackWright x, int of, int major) {
-        x.wish(of, 0, 1, major, 0, 0);
     }
 
     public static void main(String[] args) {
@@ -605,24 +569,6 @@ public final class PromiseTests {
         }
         is("resolve() of nothing in 5000 tries", none.resolve(0, 0), -1);
         is("tries()", none.tries(), 5000);
-    }
-
-    /**
-     * Package 5 goes with the least version of package 0 alone: 2 * 2497 tries lead to
-     * nothing, and the next 6 to a choice; or 7, if one more of them leads to nothing.
-     */
-    private static PackWright hardProject(boolean oneMore) {
-        PackWright x = withPackages(6);
-        int[] counts = {3, 4, 7, 8, 5, 1};
-        for (int of = 0; of < 6; of++) {
-            publishMajors(x, of, counts[of]);
-            wishAny(x, of);
-        }
-        x.clash(5, 0, 2, 2, 0, 0);
-        if (oneMore) {
-            x.clash(4, 0, 1, 1, 0, 0);
-        }
-        return x;
     }
 
     private static void tries() {

@@ -6,8 +6,11 @@ import java.util.function.Supplier;
  * the same, exceptions as well. The seeds are fixed, so each run is the same every time.
  */
 public final class RandomRuns {
-    private static final int RUNS = 1500;
+    private static final int RUNS = 3000;
+    /** What an object answers to a later call is free. */
     private static final int CALLS = 512;
+    /** No turn of a run makes more calls than that. */
+    private static final int CALLS_OF_A_TURN = 8;
 
     private static int wrong = 0;
     private static int compared = 0;
@@ -28,6 +31,7 @@ public final class RandomRuns {
     private final PackWright real = new PackWright();
     private final NaiveWright naive = new NaiveWright();
     private final StringBuilder calls = new StringBuilder();
+    private int made = 0;
     // How a run is made: how many packages, how wide its ranges, how many needs and clashes.
     private final int packs;
     private final int spread;
@@ -69,8 +73,8 @@ public final class RandomRuns {
     }
 
     private void runCalls() {
-        int made = fillRegistry();
-        for (int i = made; i < CALLS && wrong == 0; i++) {
+        fillRegistry();
+        while (made + CALLS_OF_A_TURN <= CALLS && wrong == 0) {
             anyCall();
             if (random.nextInt(6) == 0) {
                 same("digest()", () -> real.digest(), () -> naive.digest());
@@ -80,36 +84,37 @@ public final class RandomRuns {
     }
 
     /** Most runs begin with a registry that is worth resolving in. */
-    private int fillRegistry() {
-        int made = 0;
-        for (int p = 0; p < packs; p++, made++) {
+    private void fillRegistry() {
+        for (int p = 0; p < packs; p++) {
             addPackage();
         }
         for (int p = 0; p < packs; p++) {
             int versions = random.nextInt(16) == 0 ? 0 : isHard ? 6 + random.nextInt(3) : 1 + random.nextInt(spread * 2);
-            for (int v = 0; v < versions; v++, made++) {
+            for (int v = 0; v < versions; v++) {
                 publish(p);
-                for (int n = random.nextInt(needs + 1); n > 0; n--, made++) {
+                for (int n = random.nextInt(needs + 1); n > 0; n--) {
                     need(p);
                 }
-                for (int c = random.nextInt(clashes + 1) * random.nextInt(2); c > 0; c--, made++) {
+                for (int c = random.nextInt(clashes + 1) * random.nextInt(2); c > 0; c--) {
                     clash(p);
                 }
             }
         }
-        return made + (isHard ? wishTooMuch() : wishSome());
+        if (isHard) {
+            wishTooMuch();
+        } else {
+            wishSome();
+        }
     }
 
-    private int wishSome() {
-        int made = random.nextInt(4);
-        for (int w = 0; w < made; w++) {
+    private void wishSome() {
+        for (int w = random.nextInt(4); w > 0; w--) {
             wish();
         }
-        return made;
     }
 
     /** Lets nothing in at last, but that is seen only behind all that is wished for ahead of it. */
-    private int wishTooMuch() {
+    private void wishTooMuch() {
         int free = 3 + random.nextInt(3);
         for (int of = 0; of < free; of++) {
             int wished = of;
@@ -117,7 +122,6 @@ public final class RandomRuns {
                     () -> real.wish(wished, 0, 0, 0, 0, 0), () -> naive.wish(wished, 0, 0, 0, 0, 0));
         }
         hopelessWish();
-        return free + 1;
     }
 
     private void anyCall() {
@@ -371,6 +375,7 @@ public final class RandomRuns {
 
     private Object same(String call, Supplier<Object> ofReal, Supplier<Object> ofNaive) {
         compared++;
+        made++;
         calls.append(call).append('\n');
         Object got = answer(ofReal);
         Object due = answer(ofNaive);
